@@ -41,7 +41,7 @@ public final class RoomTest {
             for (int i = 0; i < 24; i++) {
                 String name = "" + (char) ('a' + t) + (char) ('a' + i);
                 s.append(i % 3 == 0 ? "bar " : i % 3 == 1 ? "due " : "wear ").append(name);
-                s.append(i % 3 == 2 ? " miles * 2 - (worn + 1) / 3 if " : " if ").append("day * 100 + load < (0 - 5) * class;");
+                s.append(i % 3 == 2 ? " miles * 2 - (worn + 1) / 3 if " : " if ").append("day * 100 + load < 0;");
             }
             put(x, s.toString());
             if (x.read() != 0) wrong++;
