@@ -689,7 +689,6 @@ public final class EngineShed {
                 case 1:
                     return WORD_IF;
                 case 2:
-                    value = NOT;
                     return WORD_NOT;
                 case 3:
                     value = AND;
@@ -1180,14 +1179,6 @@ public final class EngineShed {
             washed = 0;
             looked = 0;
             day = NONE;
-            forgetDay();
-        }
-
-        private void forgetDay() {
-            scrubbed = false;
-            wasDue = false;
-            ranTo = 0;
-            latest = null;
         }
 
         /** The morning of a day: the shops let go whom they promised to. */
@@ -1196,7 +1187,9 @@ public final class EngineShed {
                 return;
             }
             day = today;
-            forgetDay();
+            scrubbed = false;
+            ranTo = 0;
+            latest = null;
             if (until != NONE && until <= today) {
                 at = home;
                 miles = 0;

@@ -8,6 +8,12 @@ public final class ModelTest {
     private static final String[] ODD = {"abcdefghi", "12345", "=", "!", "if", "day", ";", "(", ")", "not", "from", "x",
         "7", "<", "bar", "strike", "+", "and", "\u00e9", "."};
 
+    // Rules that tell more often than those by chance.
+    private static final String[] PLAIN_RULES = {"wear w far / 10 + 1;", "wear v miles / 7 if class == 0;",
+        "coal c hours * 2 + lent * 50;", "coal e worn if spare == 0;", "price p 10 * class + miles;",
+        "price q 100 - load if class != 1;", "due d if 100 <= miles or 3 < days;", "due k if 2 < looked and not lent == 1;",
+        "bar g if class == 1 and 60 < load;", "bar h if 250 < miles + far;", "bar i if 40 < worn;", "strike g;"};
+
     private final Random random;
     private final EngineShed real = new EngineShed();
     private final PlainShed plain = new PlainShed();
@@ -117,7 +123,8 @@ public final class ModelTest {
         StringBuilder s = new StringBuilder();
         if (random.nextBoolean()) s.append("from ").append(random.nextInt(12) == 0 ? 115 + to(10) : to(days)).append(";");
         int rules = random.nextInt(40) == 0 ? 23 + to(3) : to(8);
-        for (int i = 0; i < rules && s.length() < 1700; i++) s.append(rule()).append(blank());
+        boolean sensible = random.nextBoolean();
+        for (int i = 0; i < rules && s.length() < 1700; i++) s.append(sensible ? pick(PLAIN_RULES) : rule()).append(blank());
         if (random.nextInt(3) == 0) {
             int at = to(s.length());
             if (random.nextBoolean()) s.insert(at, pick(ODD));

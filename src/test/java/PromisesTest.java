@@ -80,6 +80,7 @@ public final class PromisesTest {
         promise18and19();
         promise20washes();
         promise20shops();
+        promise20worn();
         promise20fails();
         promise20lent();
         promise21();
@@ -183,6 +184,12 @@ public final class PromisesTest {
         reads("wear a (1;", 1, 9);
         reads("wear a 1);", 1, 8);
         reads("wear a ();", 1, 8);
+        reads("wear a (?1);", 1, 8);
+        reads("wear a (1)?;", 1, 10);
+        reads("bar a if not ? 1<2;", 1, 13);
+        reads("bar a if (not 1)<2;", 1, 10);
+        reads("bar a if 1<2;?bar", 1, 13);
+        reads("bar bar", 1, 4);
         reads("wear a ;", 1, 7);
         reads("wear a 1 if;", 1, 11);
         reads("wear a 1 if 1;", 1, 13);
@@ -229,12 +236,15 @@ public final class PromisesTest {
         EngineShed x = new EngineShed();
         due("a fault", read(x, "bar a if 1<2; bar"), 1);
         due("changes nothing", x.rules(0), 0);
+        due("a fault far on", read(x, "from 7; wear b ((1" + times("+1", 150) + "?"), 1);
+        due("another one", read(x, "wear b (1" + times("*2", 150) + ";"), 1);
         for (int i = 0; i < 6; i++) due("text " + i, read(x, "bar " + letters(i) + " if 1<2;"), 0);
         put(x, "strike aa;");
         due("a 7th text", x.read(), -2);
         due("the tape stays", x.count(6), 10);
         due("texts", x.count(5), 6);
         due("rules", x.rules(0), 6);
+        afterFaults();
         promise = 5;
         due("place behind -2", x.place(), -1);
         EngineShed y = new EngineShed();
@@ -248,6 +258,17 @@ public final class PromisesTest {
         read(z, "");
         due("-2", z.read(), -2);
         due("place of the latest that was not -2", z.place(), -1);
+    }
+
+    /** A text of 400 tokens tells the same behind faults that came far. */
+    private static void afterFaults() {
+        EngineShed x = lineBoard();
+        due("a fault", read(x, "from 9; wear b ((1" + times("+1", 150) + " if"), 1);
+        due("another one", read(x, "wear c 1 if not not 1" + times("+1", 150) + " if"), 1);
+        due("400 tokens", read(x, "wear a 1" + times("+1", 198) + ";"), 0);
+        x.run(0, 0, 0, 0);
+        due("rules", x.rules(0), 1);
+        due("its sum", x.held(0, 1, 1), 199);
     }
 
     private static void promise6to10() {
@@ -465,6 +486,23 @@ public final class PromisesTest {
         due("gone home on the day", y.isVoid(5, 6), 2);
         y.run(0, 0, 0, 5);
         due("runs on the day", y.isVoid(6, 7), 0);
+    }
+
+    private static void promise20worn() {
+        promise = 20;
+        EngineShed x = lineBoard();
+        read(x, "wear w 40;");
+        x.run(0, 0, 0, 0);
+        x.run(0, 1, 0, 0);
+        x.shops(0, 1, 3);
+        state(x, 0, 2, 3, -1, 1, 161, 80, 2, 2, 0);
+        state(x, 0, 3, 3, 0, 0, 0, 0, 0, 0, 0);
+        // An engine that comes later is as it should be, too, and so is one behind a new text.
+        int later = x.engine(4, 2);
+        state(x, later, 3, 3, 2, 0, 0, 0, 3, 3, 2);
+        due("wear", x.state(0, 0, 3, 3), 80);
+        read(x, "wear w 50;");
+        due("wear by another rule", x.state(0, 0, 3, 3), 100);
     }
 
     private static void promise20fails() {
@@ -767,10 +805,47 @@ public final class PromisesTest {
         due("the man can't", x.help(8, 10), 3);
         x.fails(0, 1, 7);
         due("it did nothing", x.help(10, 11), -1);
+        helpByWays();
         due("another fact", x.help(0, 11), -1);
         due("not known", x.help(8, 8), -1);
         due("n 12", x.help(8, 12), -1);
         due("fact -1", x.help(-1, 11), -1);
+    }
+
+    /** Engine 0 fails at shed 0, and 1, 2 and 3 are spare at the sheds 1, 2 and 3; 4 has no more than a turn. */
+    private static void helpByWays() {
+        EngineShed x = new EngineShed();
+        for (int i = 0; i < 5; i++) {
+            x.shed();
+            x.engine(0, i);
+            x.man(255);
+            x.turn(i, 0, 3, 8, 0, 0, 0, i < 4);
+        }
+        x.fails(0, 0, 4);
+        x.run(4, 4, 4, 0);
+        due("none spare", x.help(0, 2), -2);
+        x.run(3, 3, 3, 0);
+        due("one", x.help(0, 3), 3);
+        x.run(2, 2, 2, 0);
+        due("a lesser one as far off", x.help(0, 4), 2);
+        x.run(1, 1, 1, 0);
+        due("the least", x.help(0, 5), 1);
+        x.way(1, 0, 2);
+        due("1 at first, 2 told", x.help(0, 5), 2);
+        x.way(0, 2, 9);
+        x.way(3, 0, 9);
+        due("the least of 2, 9 and 9", x.help(0, 5), 1);
+        x.way(0, 1, 9);
+        due("all 9", x.help(0, 5), 1);
+        x.way(0, 3, 0);
+        due("a farther number, a nearer way", x.help(0, 5), 3);
+        x.way(0, 1, 0);
+        due("both 0", x.help(0, 5), 1);
+        x.way(0, 1, 1);
+        due("1 and 0", x.help(0, 5), 3);
+        x.way(0, 3, 1);
+        x.way(0, 2, 1);
+        due("all as at first", x.help(0, 5), 1);
     }
 
     private static void promise27() {
@@ -847,6 +922,9 @@ public final class PromisesTest {
         promise = 31;
         due("no lack", x.lack(), 0);
         promise = 29;
+        due("eight turns", x.best(0, 255, 0), -2);
+        due("four at three", x.lack(), 15);
+        due("three", x.best(0, 7, 0), 29);
         due("nine turns", x.best(0, 511, 0), -1);
         due("turn 9", x.best(0, 512, 0), -1);
         due("below 0", x.best(0, -1, 0), -1);
@@ -894,6 +972,15 @@ public final class PromisesTest {
         price("from 8; price p 3;", 0);
         price("bar b if load == 21; price p far;", 61);
         price("bar b if load == 20; price p far;", -2);
+        EngineShed x = new EngineShed();
+        x.shed();
+        for (int i = 0; i < 9; i++) x.engine(i % 3, 0);
+        for (int i = 0; i < 12; i++) x.turn(0, 0, 0, 1, 0, i, 0, false);
+        read(x, "price p load * (3 - class); bar b if load == 4 and class < 2;");
+        // Loads 4 .. 11: class 2 takes 4, 10 and 11, class 1 then 7 .. 9, class 0 the least of them.
+        due("eight turns", x.best(0, 255 << 4, 0), 4 + 10 + 11 + 2 * (7 + 8 + 9) + 3 * (5 + 6));
+        int[] who = {2, 0, 3, 1, 4, 7, 5, 8};
+        for (int t = 4; t < 12; t++) due("given(" + t + ")", x.given(t), who[t - 4]);
     }
 
     private static void promise31lacks() {
@@ -1052,6 +1139,7 @@ public final class PromisesTest {
         due("turns below 0", x.months(1, 1, 1, -1, 0), -1);
         due("f 2", x.months(1, 1, 1, 1, 2), -1);
         due("f -1", x.months(1, 1, 1, 1, -1), -1);
+        monthsTakenBack();
         EngineShed y = board();
         for (int i = 0; i < 6; i++) y.engine(0, 0);
         for (int i = 0; i < 9; i++) y.turn(0, 0, 0, 1, 0, 0, 0, false);
@@ -1062,6 +1150,23 @@ public final class PromisesTest {
         due("four months", y.months(31, 4, 2, 255, 0), -2);
         due("one too many if one fails", y.months(1, 5, 1, 255, 1), -2);
         due("seven turns if one fails", y.months(1, 5, 1, 127, 1), 0);
+    }
+
+    /** 0 and 1 could go together, but then 2 and 3, who alone may work the turn, would have to as well. */
+    private static void monthsTakenBack() {
+        EngineShed x = new EngineShed();
+        x.shed();
+        for (int i = 0; i < 4; i++) x.engine(i < 2 ? 1 : 0, 0);
+        x.turn(0, 0, 0, 1, 0, 0, 0, false);
+        x.may(1, 0, false);
+        due("0 and 1 alone", x.months(3, 2, 2, 1, 0), 0);
+        due("1 with 0", x.month(1), 0);
+        due("all four", x.months(15, 2, 2, 1, 0), 0);
+        int[] months = {0, 1, 0, 1};
+        for (int e = 0; e < 4; e++) due("month of " + e, x.month(e), months[e]);
+        due("three in one", x.months(15, 2, 3, 1, 0), 0);
+        int[] wider = {0, 0, 0, 1};
+        for (int e = 0; e < 4; e++) due("month of " + e, x.month(e), wider[e]);
     }
 
     private static void promise39and40() {
@@ -1104,6 +1209,11 @@ public final class PromisesTest {
         x.fails(3, 3, 1);
         promise = 39;
         due("three", x.causes(6) > 0, true);
+        promise = 40;
+        due("asked first", x.cause(2, 0), 1);
+        due("asked without the count", x.cause(5, 0), 3);
+        due("nothing is left of it", x.cause(4, 0), 1);
+        promise = 39;
         due("n -1", x.causes(-1), -1);
         due("n 7", x.causes(7), -1);
         // Four that have nothing of their own in common.
