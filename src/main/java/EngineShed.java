@@ -1450,6 +1450,7 @@ public final class EngineShed {
                     break;
                 }
                 if (order[i] < n) {
+                    openDay(f);
                     step(f);
                 }
             }
@@ -1476,25 +1477,25 @@ public final class EngineShed {
             }
         }
 
-        private void step(Fact f) {
+        /** Begins the day of a fact, and that of its engine, unless they have begun. */
+        private void openDay(Fact f) {
             if (f.day != today) {
                 today = f.day;
                 book.openAt(today);
                 ranTurns = 0;
                 Arrays.fill(hours, 0);
             }
+            if (isEngine(f.engine) && engines[f.engine].day != today) {
+                engines[f.engine].startDay(today);
+                engines[f.engine].wasDue = isDue(engines[f.engine], today);
+            }
+        }
+
+        private void step(Fact f) {
             if (!isEngine(f.engine)) {
                 return;
             }
             Engine e = engines[f.engine];
-            if (e.day != today) {
-                e.startDay(today);
-                e.wasDue = isDue(e, today);
-            }
-            stepEngine(f, e);
-        }
-
-        private void stepEngine(Fact f, Engine e) {
             switch (f.kind) {
                 case WASH:
                     e.wash();
