@@ -1760,10 +1760,15 @@ public final class EngineShed {
         }
 
         private void reckonLeast(int engineCount) {
-            for (int used = (1 << engineCount) - 1; used >= 0; used--) {
+            // Sets with an engine that may work none of the turns are never come to.
+            int useful = united[(1 << many) - 1];
+            for (int used = useful; used >= 0; used--) {
                 int i = Integer.bitCount(used);
-                if (i >= many) {
-                    least[used] = i == many ? 0 : UNREACHED;
+                if (i > many || (used & ~useful) != 0) {
+                    continue;
+                }
+                if (i == many) {
+                    least[used] = 0;
                     continue;
                 }
                 int free = able[i] & ~used;
