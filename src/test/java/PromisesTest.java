@@ -81,6 +81,7 @@ public final class PromisesTest {
         promise20washes();
         promise20shops();
         promise20worn();
+        promise20mornings();
         promise20fails();
         promise20lent();
         promise21();
@@ -187,6 +188,9 @@ public final class PromisesTest {
         reads("wear a (?1);", 1, 8);
         reads("wear a (1)?;", 1, 10);
         reads("bar a if not ? 1<2;", 1, 13);
+        reads("bar a if not abcdefghi 1<2;", 1, 13);
+        reads("wear a (abcdefghi);", 1, 8);
+        reads("wear a (12345);", 1, 8);
         reads("bar a if (not 1)<2;", 1, 10);
         reads("bar a if 1<2;?bar", 1, 13);
         reads("bar bar", 1, 4);
@@ -269,6 +273,19 @@ public final class PromisesTest {
         x.run(0, 0, 0, 0);
         due("rules", x.rules(0), 1);
         due("its sum", x.held(0, 1, 1), 199);
+        due("not, and no more", read(x, "bar a if not ?"), 1);
+        due("a rule with if", read(x, "wear a 7 if 1 == 1;"), 0);
+        due("it holds", x.held(0, 1, 1), 7);
+        // What was taken back from the tape is not read.
+        put(x, "bar a if 1<=");
+        x.back(1);
+        due("an end behind <", x.read(), 1);
+        due("its place", x.place(), 11);
+        put(x, "strike abc");
+        x.back(2);
+        put(x, ";");
+        due("a name cut short", x.read(), 0);
+        due("it struck", x.rules(0), 0);
     }
 
     private static void promise6to10() {
@@ -505,6 +522,24 @@ public final class PromisesTest {
         due("wear by another rule", x.state(0, 0, 3, 3), 100);
     }
 
+    /** The evening of a day and the morning of the next one are not the same. */
+    private static void promise20mornings() {
+        promise = 20;
+        EngineShed x = lineBoard();
+        read(x, "due d if 4 <= days; bar b if class == 1;");
+        x.shops(0, 1, 6);
+        for (int i = 0; i < 2; i++) {
+            due("the evening of 5", x.state(0, 5, 1, 1), 1);
+            due("the morning of 6", x.due(0, 6, 1), 0);
+            due("the evening of 5", x.state(0, 5, 1, 1), 1);
+            due("best of 6", x.best(6, 1, 1), 0);
+            due("the evening of 5", x.state(0, 5, 1, 4), 5);
+            due("the morning of 5", x.due(0, 5, 1), 1);
+            due("best of 5", x.best(5, 1, 1), -2);
+            due("the evening of 6", x.state(0, 6, 1, 0), 0);
+        }
+    }
+
     private static void promise20fails() {
         promise = 20;
         EngineShed x = lineBoard();
@@ -692,6 +727,7 @@ public final class PromisesTest {
         amount("wear w 1 if not 1 < 2 or 1 < 2; wear v 2;", 1);
         amount("wear w 1 if 2 < 2; wear v 2 if 2 <= 2;", 2);
         amount("wear w 1 if 2 != 2; wear v 2 if 3 <= 2; wear u 3 if 0 - 1 < 0;", 3);
+        amount("coal c 1 / 0; wear v 2;", 2);
         amount("wear w day;", 3);
         amount("wear w class;", 1);
         amount("wear w days * 10 + looked;", 33);
@@ -830,6 +866,8 @@ public final class PromisesTest {
         due("a lesser one as far off", x.help(0, 4), 2);
         x.run(1, 1, 1, 0);
         due("the least", x.help(0, 5), 1);
+        x.way(1, 0, 1);
+        due("told as it is at first", x.help(0, 5), 1);
         x.way(1, 0, 2);
         due("1 at first, 2 told", x.help(0, 5), 2);
         x.way(0, 2, 9);
@@ -846,6 +884,25 @@ public final class PromisesTest {
         x.way(0, 3, 1);
         x.way(0, 2, 1);
         due("all as at first", x.help(0, 5), 1);
+        // Engine 2 fails at shed 2; 1 is spare at 0, 0 at 1.
+        EngineShed y = new EngineShed();
+        for (int i = 0; i < 3; i++) {
+            y.shed();
+            y.man(255);
+            y.turn(i, i, 3, 8, 0, 0, 0, true);
+        }
+        y.engine(0, 1);
+        y.engine(0, 0);
+        y.engine(0, 2);
+        y.run(1, 0, 0, 1);
+        y.fails(2, 1, 7);
+        due("the first fact helps", y.help(1, 2), 1);
+        y.run(0, 1, 1, 1);
+        due("both ways as at first", y.help(1, 3), 0);
+        y.way(2, 1, 1);
+        due("one told as it is", y.help(1, 3), 0);
+        y.way(2, 1, 2);
+        due("one told farther", y.help(1, 3), 1);
     }
 
     private static void promise27() {
@@ -1213,6 +1270,14 @@ public final class PromisesTest {
         due("asked first", x.cause(2, 0), 1);
         due("asked without the count", x.cause(5, 0), 3);
         due("nothing is left of it", x.cause(4, 0), 1);
+        EngineShed z = board();
+        z.lent(0, 1, 4);
+        z.fails(0, 5, 0);
+        z.fails(0, 3, 0);
+        for (int i = 0; i < 2; i++) {
+            due("known by 2, at shed 1", z.cause(2, 1), 1 << 9);
+            due("known by 3, at shed 0", z.cause(3, 1), 1 << 8);
+        }
         promise = 39;
         due("n -1", x.causes(-1), -1);
         due("n 7", x.causes(7), -1);
