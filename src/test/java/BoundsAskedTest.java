@@ -29,6 +29,7 @@ public final class BoundsAskedTest {
         turnedOutside();
         turnedRuns();
         turnedByLater();
+        askingChangesNothing();
         Bounds.finish();
     }
 
@@ -283,6 +284,11 @@ public final class BoundsAskedTest {
         x.run(3, 1, 1, 4);
         due("another one at the same shed", x.help(1, 3), 3);
         due("not known", x.help(1, 2), -2);
+        EngineShed z = Bounds.sheds(3);
+        spare(z, 1, 6, 10);
+        z.run(1, 0, 1, 4);
+        z.fails(0, 4, 6);
+        due("a run told as the first fact of all", z.help(1, 2), 1);
         EngineShed y = trouble(7);
         y.fails(1, 4, 7);
         due("it helps, though it fails itself", y.help(0, 3), 1);
@@ -603,5 +609,72 @@ public final class BoundsAskedTest {
         y.fails(0, 118, 23);
         due("178 and 179 are the last", y.turned(179, 180), 178);
         due("not known by both", y.turned(178, 180), NONE);
+    }
+
+    // ---- asking
+
+    private static final Bounds.Call[] QUESTIONS = {x -> x.state(2, 2, 12, 6), x -> x.state(2, 1, 12, 6), x -> x.state(1, 2, 12, 6),
+        x -> x.state(1, 1, 12, 0), x -> x.state(2, 5, 12, 1), x -> x.state(2, 4, 12, 1), x -> x.state(2, 3, 8, 1), x -> x.state(2, 3, 7, 1),
+        x -> x.state(0, 1, 12, 1), x -> x.state(0, 0, 12, 2), x -> x.state(0, 119, 12, 2), x -> x.state(0, 0, 1, 2), x -> x.state(0, 3, 12, 2),
+        x -> x.state(0, 4, 12, 2), x -> x.due(0, 4, 12), x -> x.due(0, 3, 12), x -> x.due(0, 5, 12), x -> x.due(0, 0, 12), x -> x.due(0, 1, 12),
+        x -> x.isVoid(4, 12), x -> x.isVoid(10, 12), x -> x.held(0, 12, 0), x -> x.held(0, 2, 0), x -> x.held(10, 12, 4), x -> x.held(10, 11, 2),
+        x -> x.bar(4, 12), x -> x.beyond(0, 119, 12), x -> x.help(5, 12), x -> x.coal(0, 1, 12), x -> x.coal(0, 119, 10), x -> x.owes(2, 0, 1, 2, 12),
+        x -> x.owes(2, 0, 1, 1, 12), x -> x.causes(12), x -> x.causes(5), x -> x.cause(12, 1), x -> x.turned(12, 1), x -> x.turned(6, 3),
+        x -> x.rules(1), x -> x.rules(2), x -> x.rule(1, 2, 0), x -> x.rule(2, 3, 0), x -> x.best(1, 1, 12), x -> x.best(2, 1, 12), x -> x.best(4, 2, 12),
+        x -> x.best(0, 3, 12), x -> x.best(5, 2, 12)};
+
+    /** Each question behind each other one, on one board, answers as on a new one. */
+    private static void askingChangesNothing() {
+        holds(20, "Nothing is promised beyond the answers and state changes described above");
+        int[] want = new int[QUESTIONS.length];
+        for (int i = 0; i < want.length; i++) want[i] = QUESTIONS[i].on(Bounds.yard());
+        EngineShed x = Bounds.yard();
+        for (int i = 0; i < want.length; i++) {
+            for (int j = 0; j < want.length; j++) {
+                due("question " + i + " ahead of " + j, QUESTIONS[i].on(x), want[i]);
+                due("question " + j + " behind " + i, QUESTIONS[j].on(x), want[j]);
+            }
+        }
+        // Of the first days, and with what is asked of mornings: shops that end on day 1, a wash on day 1.
+        Bounds.Call[] first = {y -> y.state(0, 0, 2, 1), y -> y.state(0, 1, 2, 1), y -> y.due(1, 1, 2), y -> y.due(1, 0, 2), y -> y.due(1, 2, 2),
+            y -> y.state(1, 1, 2, 4), y -> y.best(1, 1, 2), y -> y.best(0, 1, 2), y -> y.causes(2), y -> y.due(1, 1, 0), y -> y.due(1, 1, 1),
+            y -> y.state(0, 0, 1, 1), y -> y.state(0, 119, 2, 4), y -> y.state(0, 118, 2, 4)};
+        int[] due = new int[first.length];
+        for (int i = 0; i < due.length; i++) due[i] = first[i].on(firstDays());
+        EngineShed y = firstDays();
+        for (int i = 0; i < due.length; i++) {
+            for (int j = 0; j < due.length; j++) {
+                due("of the first days: " + i + " ahead of " + j, first[i].on(y), due[i]);
+                due("of the first days: " + j + " behind " + i, first[j].on(y), due[j]);
+            }
+        }
+        // What comes between two questions counts.
+        EngineShed z = Bounds.sheds(2);
+        turn(z, 0, 0, 1, 2, 5);
+        z.run(0, 0, 0, 5);
+        due("no rules", z.held(0, 1, 1), 0);
+        Bounds.read(z, "from 5; wear w 7;");
+        due("a text that came", z.held(0, 1, 1), 7);
+        due("its rules", z.rules(5), 1);
+        Bounds.read(z, "wear v 6;");
+        due("one of a day ahead", z.held(0, 1, 1), 6);
+        due("it is the first", z.rule(5, 0, 1), 1);
+        due("on day 4 it alone", z.rule(4, 0, 1), 1);
+        due("an engine that came", z.engine(0, 1), 2);
+        due("it is where it is", z.state(2, 5, 1, 0), 1);
+        EngineShed w = new EngineShed();
+        Bounds.read(w, "from 5; wear w 7;");
+        due("rules on day 5", w.rules(5), 1);
+        Bounds.read(w, "from 3; coal c 7;");
+        due("on day 3 one, too", w.rule(3, 0, 0), 3);
+    }
+
+    private static EngineShed firstDays() {
+        EngineShed x = Bounds.sheds(2);
+        Bounds.read(x, "due d if 1 <= days; price p 100 * days + 1;");
+        turn(x, 0, 0, 1, 2, 5);
+        x.shops(0, 0, 1);
+        x.fact(0, 1, 1);
+        return x;
     }
 }

@@ -32,6 +32,7 @@ public final class BoundsBestTest {
         monthsTurns();
         monthsFailing();
         monthsFirst();
+        monthsByTrial();
         monthStays();
         causesOutside();
         causesNone();
@@ -729,9 +730,87 @@ public final class BoundsBestTest {
         int[] one = {0, 0, 1, 0, 0};
         for (int e = 0; e < 5; e++) due("month of " + e, x.month(e), one[e]);
         due("two months, two at most: there are none", x.months(31, 2, 2, 3, 0), -2);
+        EngineShed y = crowd(0, 1);
+        for (int c = 0; c < 4; c++) y.engine(c, 0);
+        y.may(0, 0, false);
+        y.may(1, 0, false);
+        // 2 and 3 may not be away in one month, so 0 and 1 may not be, either.
+        due("two months, two at most, that are found late", y.months(15, 2, 2, 1, 0), 0);
+        for (int e = 0; e < 4; e++) due("month of " + e, y.month(e), e % 2);
         due("0 and 2 and 4, one at most", x.months(21, 5, 1, 3, 0), 0);
         int[] some = {0, NONE, 1, NONE, 2};
         for (int e = 0; e < 5; e++) due("month of " + e, x.month(e), some[e]);
+    }
+
+    /** Six engines of six classes, six turns; tables that a seed tells; each asked is also tried out in all ways. */
+    private static void monthsByTrial() {
+        holds(37, "in each month and whichever f (0, 1) of all other ENGINES fail (none, if there is none other), told TURNS (8 at most) have one each");
+        int found = 0;
+        for (int seed = 0; seed < 60; seed++) {
+            java.util.Random random = new java.util.Random(seed);
+            EngineShed x = new EngineShed();
+            x.shed();
+            for (int c = 0; c < 6; c++) x.engine(c, 0);
+            int[] may = new int[4];
+            for (int t = 0; t < 4; t++) {
+                x.turn(0, 0, 1, 2, 5, t, 0, false);
+                int one = random.nextInt(64);
+                int other = random.nextInt(64);
+                // Every second table is a sparse one: then the first try is often not the last.
+                may[t] = seed % 2 == 0 ? one | other : one & other | 1 << random.nextInt(6) | 1 << random.nextInt(6);
+                for (int c = 0; c < 6; c++) x.may(c, t, (may[t] >> c & 1) != 0);
+            }
+            for (int i = 0; i < 12; i++) {
+                int set = 1 + random.nextInt(62);
+                int w = 1 + random.nextInt(5);
+                int p = 1 + random.nextInt(3);
+                int turns = random.nextInt(16);
+                int f = random.nextInt(2);
+                int[] first = new int[6];
+                boolean is = tryMonths(may, set, w, p, turns, f, first);
+                String call = "seed " + seed + ", months(" + set + ", " + w + ", " + p + ", " + turns + ", " + f + ")";
+                if (Integer.bitCount(set) > 5) continue;
+                due(call, x.months(set, w, p, turns, f), is ? 0 : -2);
+                for (int e = 0; e < 6 && is; e++) due(call + ", month of " + e, x.month(e), first[e]);
+                found += is ? 1 : 0;
+            }
+        }
+        due("months that were found, 100 at least", Math.min(100, found), 100);
+    }
+
+    private static boolean tryMonths(int[] may, int set, int w, int p, int turns, int f, int[] first) {
+        int many = Integer.bitCount(set);
+        int all = 1;
+        for (int i = 0; i < many; i++) all *= w;
+        for (int code = 0; code < all; code++) {
+            int rest = code;
+            int[] away = new int[w];
+            Arrays.fill(first, NONE);
+            for (int e = 5; e >= 0; e--) {
+                if ((set >> e & 1) == 0) continue;
+                first[e] = rest % w;
+                away[rest % w] |= 1 << e;
+                rest /= w;
+            }
+            boolean fine = true;
+            for (int gone : away) {
+                fine &= Integer.bitCount(gone) <= p;
+                int others = 63 & ~gone;
+                if (f == 0 || others == 0) fine &= works(may, turns, 0, others);
+                else for (int e = 0; e < 6; e++) if ((others >> e & 1) != 0) fine &= works(may, turns, 0, others & ~(1 << e));
+            }
+            if (fine) return true;
+        }
+        return false;
+    }
+
+    private static boolean works(int[] may, int turns, int t, int engines) {
+        if (t == may.length) return true;
+        if ((turns >> t & 1) == 0) return works(may, turns, t + 1, engines);
+        for (int e = 0; e < 6; e++) {
+            if ((may[t] & engines & 1 << e) != 0 && works(may, turns, t + 1, engines & ~(1 << e))) return true;
+        }
+        return false;
     }
 
     private static void monthStays() {

@@ -1045,7 +1045,23 @@ public final class BoundsDaysTest {
         value("7 / 2 * 2", 6);
         value("2 + 3 * 4", 14);
         value("(2 + 3) * 4", 20);
+        value("7 * 2 / 4", 3);
+        value("10 - 3 + 2", 9);
+        value("10 + 3 - 2", 11);
+        value("10 - 2 * 3", 4);
+        value("2 + 6 / 4", 3);
+        value("9 - 6 / 4", 8);
+        value("2 * 3 + 4 * 5 - 6 / 2", 23);
+        value("1 + 2 * (3 + 4) * 5", 71);
         value("((((((9))))))", 9);
+        String[] signs = {"==", "!=", "<", "<="};
+        for (int i = 0; i < signs.length; i++) {
+            given("5 " + signs[i] + " 3 + 2", i % 2 == 0 ? i == 0 : i == 3);
+            given("3 + 2 " + signs[i] + " 5", i % 2 == 0 ? i == 0 : i == 3);
+            given("1 " + signs[i] + " 7 - 3 * 2", i % 2 == 0 ? i == 0 : i == 3);
+            given("2 * 3 - 1 " + signs[i] + " 9 - 3", i != 0);
+            given("9 - 1 " + signs[i] + " 6 / 2", i == 1);
+        }
         value("0009", 9);
         worn("wear w 1 if 1 < 2 or 1 < 2 and 2 < 1;", 1);
         worn("wear w 1 if 2 < 1 and 2 < 1 or 1 < 2;", 1);
@@ -1087,7 +1103,12 @@ public final class BoundsDaysTest {
         value("5 + 1 / (2 / 2)", 6);
         coaled("coal c 5 + 1 / 0;", 0);
         coaled("coal c 5 + 1 / 1;", 6);
-        // A condition's division by 0 is no matter to the E.
+        // One rule's division by 0 is no matter to another one's, nor a condition's to the E.
+        coaled("wear w 1 / 0; coal c 7 if 1 < 2;", 7);
+        coaled("wear w 1 / 0; coal c 7;", 7);
+        worn("wear w 1 / 0 if 2 < 1; wear v 4 if 1 < 2;", 4);
+        worn("wear w 5 + 1 if 1 < 2;", 6);
+        worn("wear w 5 + 2 * (1 + 1) if 1 + 1 == 2 and not 2 + 1 == 2 * 1;", 9);
         worn("wear w 7 if not 1 / 0 == 0;", 7);
         worn("wear w 7 if 1 / 0 == 0 or 1 < 2;", 7);
     }

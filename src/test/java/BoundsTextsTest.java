@@ -277,6 +277,13 @@ public final class BoundsTextsTest {
         EngineShed y = new EngineShed();
         read(y, "wear a 1; wear aa 2; wear aaaaaaa 3; wear aaaaaaaa 4;");
         due("names of 1, 2, 7 and 8", y.rules(0), 4);
+        EngineShed z = new EngineShed();
+        for (char c : new char[] {'b', 'z'}) {
+            StringBuilder s = new StringBuilder();
+            for (int many = 1; many <= 8; many++) s.append("wear ").append(("" + c).repeat(many)).append(" 1;");
+            read(z, s.toString());
+        }
+        due("names of b and of z", z.rules(0), 16);
     }
 
     private static void words() {
@@ -425,6 +432,9 @@ public final class BoundsTextsTest {
                 goesOn(word + " 1 < 2 and", units("not"), false);
                 goesOn(word + " 1 < 2 or", units("not"), false);
                 goesOn(word + " 1", signs("==", "!=", "<", "<="), false);
+                goesOn(word + " (", units(), false);
+                goesOn(word + " not (", units(), false);
+                goesOn(word + " 1 < (", units(), false);
                 goesOn(word + " not (1", signs(")"), false);
                 goesOn(word + " not (1)", signs("==", "!=", "<", "<="), false);
                 goesOn(word + " 1 *", units(), false);
@@ -634,6 +644,23 @@ public final class BoundsTextsTest {
             due("'" + s + "' has a fault", read(y, s) == 0 ? 1 : 0, 0);
             read(y, "?");
             Bounds.same("behind the fault of '" + s + "'", y, x);
+        }
+        // What a fault leaves unread is of no matter to the next text.
+        String[] broken = {"bar a if not 1 <", "bar a if not not not 1 == 2 and not", "wear a ((1 + 2) * (3", "wear a (((((((", "wear a 1 + 2 * (3 - 4 * (",
+            "wear a 1 if 2 < 3 or not (4", "from", "from 7", "strike", "bar a", "wear a 1 if", "bar a if 1 < (2 + 3) /", "from 120; wear a (1);"};
+        for (String s : broken) {
+            EngineShed x = Bounds.sheds(1);
+            x.turn(0, 0, 0, 1, 0, 0, 0, false);
+            x.run(0, 0, 0, 3);
+            due("'" + s + "' has a fault", read(x, s) == 0 ? 1 : 0, 0);
+            due("a text behind it", read(x, "wear q (1 + 2) * 3 - 1 if not 1 == 2 and day < 9;"), 0);
+            due("wear behind '" + s + "'", x.held(0, 1, 1), 8);
+            due("rules behind '" + s + "'", x.rules(0), 1);
+            due("another fault", read(x, s) == 0 ? 1 : 0, 0);
+            due("a text behind it", read(x, "from 3; bar b if 5 < day;"), 0);
+            due("it does not bar", x.isVoid(0, 1), 0);
+            due("rules on day 2", x.rules(2), 1);
+            due("rules on day 3", x.rules(3), 2);
         }
         EngineShed z = new EngineShed();
         due("a fault", read(z, "from 9; bar a if 1 < 2; ?"), 1);
